@@ -24,8 +24,8 @@ public final class CircleTints {
     private boolean imaged;
     private final RingBook book;
     private final Painter painter;
-    private final Reader reader;
-    private final Exact exact;
+    private final TapeReader reader;
+    private final Reckoner reckoner;
     private final Hold[] holds;
     private final Sheet[] sheets;
 
@@ -35,8 +35,8 @@ public final class CircleTints {
         draft = new Net();
         book = new RingBook();
         painter = new Painter();
-        reader = new Reader();
-        exact = new Exact();
+        reader = new TapeReader();
+        reckoner = new Reckoner();
         holds = new Hold[HOLDS];
         for (int h = 0; h < HOLDS; h++) {
             holds[h] = new Hold();
@@ -390,10 +390,10 @@ public final class CircleTints {
         if (what == 3 && y.above == 0) {
             return PARTED_BY_0;
         }
-        exact.much = false;
-        long above = exact.aboveOf(x, what, y);
-        long below = exact.belowOf(x, what, y);
-        return exact.much ? MUCH : x.takeFraction(above, below);
+        reckoner.much = false;
+        long above = reckoner.aboveOf(x, what, y);
+        long below = reckoner.belowOf(x, what, y);
+        return reckoner.much ? MUCH : x.takeFraction(above, below);
     }
 
     public int compare(int h, int g) {
@@ -1011,7 +1011,7 @@ public final class CircleTints {
             below = 1;
             boolean first = true;
             for (int turn = 0; turn < turnCount; turn++) {
-                // All LINES the other way make the same RINGS as good as before.
+                // All LINES the other way change no RATE.
                 int mirrored = turnCount - 1 - turn;
                 int r = mirrored < turn ? worstOf[mirrored] : worstRing(turn);
                 worstOf[turn] = r;
@@ -1065,7 +1065,8 @@ public final class CircleTints {
 
         /** Whether there is a TURN by which all RINGS without a LINE have RATES less than RATIO. */
         boolean isLessWithout(int l) {
-            for (int turn = 0; turn < turnCount; turn++) {
+            // Half of the TURNS is enough, as all LINES the other way change no RATE.
+            for (int turn = 0; turn < turnCount / 2; turn++) {
                 if ((turn >> l & 1) == 0 && isLessBy(turn, 1 << l)) {
                     return true;
                 }
@@ -1370,7 +1371,7 @@ public final class CircleTints {
     }
 
     /** Sums and products that remember whether one of them was none of 64 bits. */
-    private static final class Exact {
+    private static final class Reckoner {
         boolean much;
 
         long aboveOf(Hold x, int what, Hold y) {
@@ -1412,7 +1413,7 @@ public final class CircleTints {
     }
 
     /** THE TAPE, and the reading of a TEXT from it, TOKEN by TOKEN. */
-    private static final class Reader {
+    private static final class TapeReader {
         private static final int END = 0, WORD = 1, NUMBER = 2, SIGN = 3, OTHER = 4;
         private static final int FAULTY = -1, FAULT_BASE = -100, MOST_VALUE = 999;
 
@@ -1423,7 +1424,7 @@ public final class CircleTints {
         private int at;
         private int value;
 
-        Reader() {
+        TapeReader() {
             tape = new int[MOST_BYTES];
         }
 
