@@ -8,18 +8,32 @@ import java.util.Random;
 public final class ModelTest {
     private static final List<Method> REAL = new ArrayList<>();
     private static final List<Method> NAIVE = new ArrayList<>();
-    private static final String[] HEAVY = {"binds", "room", "ratio", "off", "turns", "whole"};
+    private static final List<String> HEAVY = List.of("binds", "room", "ratio", "off", "turns", "whole");
+    private static final List<String> RARE = List.of("deal", "back", "wipe", "drop");
+    private static final List<List<String>> FOCUS = List.of(
+        List.of(),
+        List.of(),
+        List.of("line", "change", "drop", "fits", "place", "ways", "list", "paint", "text"),
+        List.of("change", "rate", "worst", "turns", "ratio", "off", "binds", "room", "ring", "circled"),
+        List.of("change", "judge", "arcs", "tight", "rounds", "item"),
+        List.of("fraction", "does", "compare", "told", "hold", "does", "compare"),
+        List.of("sheet", "write", "item", "copy", "hold", "told"),
+        List.of("text", "count", "list", "lineOf", "image", "back", "points"));
 
     private final Random random;
     private final CircleTints real = new CircleTints();
+    // Has the same calls and those by which arguments are found, so that these hide nothing in the real one.
+    private final CircleTints shadow = new CircleTints();
     private final NaiveTints naive = new NaiveTints();
     private final List<String> log = new ArrayList<>();
     private final boolean dense;
+    private final List<String> focus;
     private boolean wrong;
 
     private ModelTest(long seed) {
         random = new Random(seed);
         dense = random.nextInt(6) == 0;
+        focus = FOCUS.get(random.nextInt(FOCUS.size()));
     }
 
     public static void main(String[] args) throws Exception {
@@ -49,10 +63,12 @@ public final class ModelTest {
         for (int i = 0; i < calls && !wrong; i++) {
             int m = random.nextInt(NAIVE.size());
             String name = NAIVE.get(m).getName();
-            if (Arrays.asList(HEAVY).contains(name) && random.nextInt(3) > 0) continue;
-            if (name.equals("deal") && random.nextInt(3) > 0) continue;
-            if (name.equals("back") && random.nextInt(3) > 0) continue;
-            if (name.equals("wipe") && random.nextInt(4) > 0) continue;
+            if (!focus.isEmpty() && random.nextInt(3) > 0) {
+                name = focus.get(random.nextInt(focus.size()));
+                m = indexOf(name);
+            } else if ((HEAVY.contains(name) || RARE.contains(name)) && random.nextInt(3) > 0) {
+                continue;
+            }
             if (name.equals("text") && random.nextInt(3) > 0) feedText();
             seen[m]++;
             call(m, arguments(name));
@@ -64,23 +80,42 @@ public final class ModelTest {
         for (int s = 0; s < 4 && !wrong; s++) for (int i = 0; i < 41; i++) call("item", s, i);
     }
 
+    private static int indexOf(String name) {
+        for (int m = 0; m < NAIVE.size(); m++) if (NAIVE.get(m).getName().equals(name)) return m;
+        throw new IllegalArgumentException(name);
+    }
+
+    /** Odd rings with small gaps have RATIOS that aren't whole. */
+    private void beginRound() throws Exception {
+        int n = 5 + random.nextInt(2);
+        call("points", n);
+        int far = random.nextInt(3) == 0 ? n - 1 : 4;
+        for (int i = 0; i < far; i++) call("line", random.nextInt(5) == 0 ? 1 : 0, 1, i, i + 1);
+        call("line", 0, 1, 0, far);
+        for (int more = random.nextInt(5); more > 0; more--) call("line", random.nextInt(5) / 2, 1, random.nextInt(n), random.nextInt(n));
+        if (random.nextInt(2) == 0) call("drop", random.nextInt(4));
+    }
+
     private void begin() throws Exception {
+        if (random.nextInt(3) == 0) {
+            beginRound();
+            return;
+        }
         call("seed", random.nextInt());
         call("deal", random.nextInt(3) == 0 ? 1 + random.nextInt(6) : 4 + random.nextInt(3), dense ? 8 : 1 + random.nextInt(8));
     }
 
     private void call(String name, Object... args) throws Exception {
-        for (int m = 0; m < NAIVE.size(); m++) {
-            if (NAIVE.get(m).getName().equals(name)) call(m, args);
-        }
+        call(indexOf(name), args);
     }
 
     private void call(int m, Object[] args) throws Exception {
         if (wrong) return;
         long got = ((Number) REAL.get(m).invoke(real, args)).longValue();
         long due = ((Number) NAIVE.get(m).invoke(naive, args)).longValue();
+        long shade = ((Number) REAL.get(m).invoke(shadow, args)).longValue();
         log.add(NAIVE.get(m).getName() + Arrays.toString(args) + " answered " + got + (got == due ? "" : ", due is " + due));
-        wrong = got != due;
+        wrong = got != due || shade != due;
     }
 
     /** Mostly one of lo to hi, now and then one just outside, or far off. */
@@ -94,15 +129,15 @@ public final class ModelTest {
     }
 
     private int aLine() {
-        return near(0, real.count(1) - 1);
+        return near(0, shadow.count(1) - 1);
     }
 
     private int aPoint() {
-        return near(0, real.count(0) - 1);
+        return near(0, shadow.count(0) - 1);
     }
 
     private int aTurn() {
-        return near(0, (1 << real.count(1)) - 1);
+        return near(0, (1 << shadow.count(1)) - 1);
     }
 
     private int aSheet() {
@@ -133,7 +168,7 @@ public final class ModelTest {
     }
 
     private int anEdgeOfRatio(int q) {
-        int p = real.ratio(0) * q / Math.max(1, real.ratio(1)) + random.nextInt(5) - 1;
+        int p = shadow.ratio(0) * q / Math.max(1, shadow.ratio(1)) + random.nextInt(5) - 1;
         return Math.max(1, Math.min(40, p));
     }
 
@@ -166,7 +201,7 @@ public final class ModelTest {
             case "place": return join(measures(40), aPoint());
             case "ways": return new Object[] {near(1, 8), near(1, random.nextInt(2) == 0 ? 1 : 6), near(0, 1)};
             case "ratio": case "off": return new Object[] {near(0, 1)};
-            case "ring": return new Object[] {near(0, real.rings() - 1), near(0, 2)};
+            case "ring": return new Object[] {near(0, shadow.rings() - 1), near(0, 2)};
             case "circled": case "worst": return new Object[] {aTurn()};
             case "rate": return new Object[] {aTurn(), near(0, 1)};
             case "turns": return new Object[] {near(0, 2)};
@@ -245,7 +280,7 @@ public final class ModelTest {
     }
 
     private String anItem() {
-        int n = real.count(0);
+        int n = shadow.count(0);
         String kind = random.nextInt(20) == 0 ? "plainer" : new String[] {"plain", "wide", "thin", "span", "even"}[random.nextInt(5)];
         String point = number(near(0, n)) + " ";
         switch (random.nextInt(4)) {

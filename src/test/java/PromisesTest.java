@@ -56,6 +56,7 @@ public final class PromisesTest {
         ratioWholeOff();
         rings();
         turns();
+        justAfterAChange();
         bindsAndRoom();
         judge();
         arcsAndTight();
@@ -224,6 +225,10 @@ public final class PromisesTest {
         x = net("points 3; list 1 2 39; list 2 7 7");
         due("10 no lines, by lists", x.place(8, 6, 1, 0) * 100 + x.place(8, 6, 1, 1) * 10 + x.place(8, 6, 1, 2), 27);
         due("9 no lines, none", x.fits(7, 6, 1), 0);
+        // 0 at 0 is less than 2 by 5 from 4 the other way round, and has no other place
+        x = net("points 2; line plain 2 0 1; list 0 0 0; list 1 4 4");
+        due("9 too near the other way round", x.fits(5, 1, 1), 0);
+        due("9 just far enough", x.fits(6, 1, 1), 1);
         // POINT 0 must leave its least place for POINT 1's sake
         x = net("points 2; line plain 2 0 1; list 0 0 3; list 1 1 1");
         due("10 goes up", x.place(6, 1, 1, 0), 3);
@@ -351,6 +356,68 @@ public final class PromisesTest {
         due("20 best", x.turns(1), 20);
         x.change(0, 0, 1);
         due("18 in lowest terms", x.rate(1, 0) * 10 + x.rate(1, 1), 51);
+        // five round by turn 1 is 5 of 2; then 1-2-3-4 with a line against three, 4 of 1; or a wider line to a sixth point
+        x = net("points 6; round plain 1 0 4; line plain 1 1 4");
+        due("18 a later ring is worse", x.rate(1, 0) * 10 + x.rate(1, 1), 41);
+        due("19 the later ring", x.worst(1), 46);
+        x = net("points 6; round plain 1 0 4; line wide 1 4 5");
+        due("18 a later line is worse", x.rate(1, 0) * 10 + x.rate(1, 1), 41);
+        due("19 the later line", x.worst(1), 32);
+        due("19 the later line, whatever the turn", x.worst(33), 32);
+        due("12 whatever the turn", x.ratio(0) * 10 + x.ratio(1), 41);
+    }
+
+    /** Calls that need RINGS or RATES just after the net changed, with no other call between. */
+    private static void justAfterAChange() {
+        String five = "points 5; round plain 1 0 4";
+        CircleTints x = net(five);
+        due("9 fresh", x.fits(5, 2, 0), 1);
+        x.change(0, 0, 1);
+        due("9 after change", x.fits(5, 2, 0), 0);
+        x.drop(0);
+        due("9 after drop", x.fits(4, 2, 0), 1);
+        x.line(1, 1, 0, 1);
+        due("9 after line", x.fits(4, 2, 0), 0);
+        x = net(five);
+        due("16 fresh", x.ring(5, 0), 31);
+        x.drop(4);
+        due("16 after drop", x.ring(4, 0), NONE);
+        x.line(0, 1, 4, 0);
+        due("16 after line", x.ring(5, 2), 5);
+        x.change(4, 1, 3);
+        due("16 after change", x.ring(5, 2), 7);
+        x.image();
+        x.deal(3, 0);
+        due("16 after deal", x.ring(0, 0), NONE);
+        x.back();
+        due("16 after back", x.ring(5, 2), 7);
+        read(x, "line plain 1 0 2");
+        due("16 after text", x.ring(6, 0), 32);
+        x = net(five);
+        due("10 fresh", x.place(5, 2, 0, 1), 2);
+        x = net(five);
+        due("17 fresh", x.circled(15), 1);
+        x = net(five);
+        due("18 fresh", x.rate(1, 0), 5);
+        x = net(five);
+        due("19 fresh", x.worst(1), 31);
+        x = net(five);
+        due("20 fresh", x.turns(1), 20);
+        x = net(five);
+        due("21 fresh", x.binds(), 31);
+        x = net(five);
+        due("22 fresh", x.room(0), 0);
+        x = net(five);
+        due("13 fresh", x.whole(), 3);
+        x = net(five);
+        due("14 fresh", x.off(1), 2);
+        x = net(five);
+        due("11 fresh", x.ways(5, 2, 0), 10);
+        x = net(five);
+        fill(x, 0, 0, 0, 2, 4, 1, 3);
+        due("25 fresh", x.tight(0, 5, 2, 0), 31);
+        x = net(five);
+        due("42 fresh", x.paint(0, 4, 2, 0), NONE);
     }
 
     private static void bindsAndRoom() {
@@ -580,6 +647,11 @@ public final class PromisesTest {
         due("30 with itself", x.does(0, 1, 0), 1);
         dueFraction("30 with itself", x, 0, 0, 1);
         due("30 by 0", x.does(3, 3, 0), -15);
+        x.fraction(1, 5, 7);
+        due("30 times 0", x.does(1, 2, 0), 1);
+        dueFraction("30 times 0", x, 1, 0, 1);
+        due("30 0 by a number", x.does(0, 3, 3), 1);
+        dueFraction("30 0 by a number", x, 0, 0, 1);
         x.fraction(1, -2, 3);
         due("30 by less than 0", x.does(3, 3, 1), 1);
         dueFraction("30 by less than 0", x, 3, -1, 2);
@@ -762,6 +834,12 @@ public final class PromisesTest {
         dueFault("", "point 1", 0);
         dueFault("", "pointss 1", 0);
         dueFault("", "Points 1", 0);
+        dueFault("", "joints 1", 0);
+        dueFault("points 2", "vine plain 1 0 1", 0);
+        dueFault("points 2", "mist 0 1 1", 0);
+        dueFault("points 2", "sound plain 1 0 1", 0);
+        dueFault("points 2", "line side 1 0 1", 5);
+        dueFault("points 2", "line oven 1 0 1", 5);
         dueFault("", "pointS 1", 0);
         dueFault("", "points", 6);
         dueFault("", "points ", 7);
