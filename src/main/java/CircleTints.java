@@ -225,7 +225,7 @@ public final class CircleTints {
         }
         int above = book.length[r];
         int below = book.along(r, turn);
-        int common = commonPart(above, below);
+        int common = (int) commonPart(above, below);
         if (common < 1) {
             return BAD;
         }
@@ -433,7 +433,7 @@ public final class CircleTints {
             return FULL;
         }
         for (int i = n - 1; i >= 0; i--) {
-            reader.append(bytes >> 8 * i & 255);
+            reader.append((bytes >> (8 * i)) & 255);
         }
         return reader.size;
     }
@@ -605,11 +605,12 @@ public final class CircleTints {
         return within(lists, 0, 1) && within(p, 1, lists == 1 ? PLACES_BY_LISTS : PLACES) && within(q, 1, MOST_Q);
     }
 
-    private static int commonPart(int a, int b) {
-        int x = a;
-        int y = b;
-        for (int step = 0; y != 0 && step < 64; step++) {
-            int rest = x % y;
+    /** Of numbers that aren't below 0 the greatest part of both; of such as aren't above 0 that, below 0. */
+    private static long commonPart(long a, long b) {
+        long x = a;
+        long y = b;
+        for (int step = 0; y != 0 && step < 200; step++) {
+            long rest = x % y;
             x = y;
             y = rest;
         }
@@ -622,7 +623,7 @@ public final class CircleTints {
         return painter.finds(net, book, true);
     }
 
-    /** By turns of all LINES there is a COLOURING by p, q just where p of q is RATIO or more. */
+    /** Where there are LINES, there is a COLOURING by p, q just if p of q is RATIO or more. */
     private int leastWhole() {
         book.rateTurns(net);
         return book.below < 1 ? NONE : (book.above + book.below - 1) / book.below;
@@ -1021,7 +1022,7 @@ public final class CircleTints {
                     below = along(r, turn);
                 }
             }
-            int common = commonPart(above, below);
+            int common = (int) commonPart(above, below);
             if (common > 1) {
                 above /= common;
                 below /= common;
@@ -1083,7 +1084,7 @@ public final class CircleTints {
             return true;
         }
 
-        /** RATIO stays while there is one TURN whose RATE stays it. */
+        /** RATIO stays while one of the TURNS that have it as their RATE keeps that. */
         int roomOf(int l) {
             int most = 0;
             for (int turn = 0; turn < turnCount; turn++) {
@@ -1211,7 +1212,7 @@ public final class CircleTints {
             if (least >= p) {
                 return false;
             }
-            long left = free[point] & -1L << least;
+            long left = free[point] & (-1L << least);
             trial[point] = left == 0 ? p : Long.bitCount((left & -left) - 1);
             return left != 0;
         }
@@ -1270,8 +1271,8 @@ public final class CircleTints {
             if (2 * far > p) {
                 return 0;
             }
-            long fromZero = (1L << p - 2 * far + 1) - 1 << far;
-            return fromZero << at | fromZero >>> p - at;
+            long fromZero = ((1L << (p - 2 * far + 1)) - 1) << far;
+            return (fromZero << at) | (fromZero >>> (p - at));
         }
     }
 
@@ -1343,12 +1344,12 @@ public final class CircleTints {
         int takeFraction(long a, long b) {
             long sizeOfA = a > 0 ? -a : a;
             long sizeOfB = b > 0 ? -b : b;
-            long common = commonOf(sizeOfA, sizeOfB);
+            long common = commonPart(sizeOfA, sizeOfB);
             if (common < -1) {
                 sizeOfA = -(sizeOfA / common);
                 sizeOfB = -(sizeOfB / common);
             }
-            boolean isNegative = a < 0 != b < 0;
+            boolean isNegative = (a < 0) != (b < 0);
             if (sizeOfB == Long.MIN_VALUE || !isNegative && sizeOfA == Long.MIN_VALUE) {
                 return MUCH;
             }
@@ -1356,17 +1357,6 @@ public final class CircleTints {
             above = isNegative ? sizeOfA : -sizeOfA;
             below = -sizeOfB;
             return 1;
-        }
-
-        private static long commonOf(long a, long b) {
-            long x = a;
-            long y = b;
-            for (int step = 0; y != 0 && step < 200; step++) {
-                long rest = x % y;
-                x = y;
-                y = rest;
-            }
-            return x;
         }
     }
 
@@ -1514,7 +1504,7 @@ public final class CircleTints {
             if (to == FAULTY) {
                 return false;
             }
-            net.lists[point] = (1L << to - from + 1) - 1 << from;
+            net.lists[point] = ((1L << (to - from + 1)) - 1) << from;
             return true;
         }
 
