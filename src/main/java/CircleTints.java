@@ -17,6 +17,7 @@ public final class CircleTints {
     private static final int HOLDS = 4, SHEETS = 4;
     private static final int INTS = 0, LONGS = 1, MISSING = -1;
     private static final long ALL_PLACES = (1L << PLACES) - 1;
+    private static final long LEAST_LONG = -9223372036854775808L;
 
     private final Net net;
     private final Net kept;
@@ -1350,7 +1351,7 @@ public final class CircleTints {
                 sizeOfB = -(sizeOfB / common);
             }
             boolean isNegative = (a < 0) != (b < 0);
-            if (sizeOfB == Long.MIN_VALUE || !isNegative && sizeOfA == Long.MIN_VALUE) {
+            if (sizeOfB == LEAST_LONG || !isNegative && sizeOfA == LEAST_LONG) {
                 return MUCH;
             }
             thing = FRACTION;
@@ -1397,7 +1398,7 @@ public final class CircleTints {
         private long times(long a, long b) {
             long product = a * b;
             // The one product by -1 that wraps comes back to itself when it is parted.
-            much |= b == -1 ? a == Long.MIN_VALUE : b != 0 && product / b != a;
+            much |= b == -1 ? a == LEAST_LONG : b != 0 && product / b != a;
             return product;
         }
     }

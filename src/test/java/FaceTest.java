@@ -98,7 +98,7 @@ public final class FaceTest {
         Matcher imports = Pattern.compile("import ([^;]*);").matcher(code);
         while (imports.find()) check(Set.of("java.util.Arrays", "java.util.ArrayList", "java.util.List").contains(imports.group(1)), "import " + imports.group(1));
         Matcher library = Pattern.compile("\\b(Math|Integer|Long|Arrays|System)\\.(\\w+)").matcher(code);
-        Set<String> known = Set.of("abs", "min", "max", "floorDiv", "floorMod", "compare", "bitCount", "fill", "arraycopy", "MIN_VALUE");
+        Set<String> known = Set.of("abs", "min", "max", "floorDiv", "floorMod", "compare", "bitCount", "fill", "arraycopy");
         while (library.find()) check(known.contains(library.group(2)), "library " + library.group());
         int start = 0;
         String[] lines = text.split("\n");
