@@ -185,6 +185,9 @@ public final class ColouringEdgesTest extends Edge {
             asks("11 just opposite", scene, x -> x.ways(2 * last, 1, 0), powers[2 * last - 1] / (2 * last));
             asks("11 one too few", scene, x -> x.ways(2 * last - 1, 1, 0), 0);
         }
+        CircleTints far = net("points 3;round plain 1 0 2;list 0 15 15");
+        due("10 a place beyond those of ways()", far.place(16, 1, 1, 0), 15);
+        due("11 goes by its own places", far.ways(3, 1, 0), 6);
         asks("11 never by 8", () -> net("points 6;line span 1 0 5"), x -> x.ways(8, 1, 0), 0);
         asks("11 never by 8 for 6", () -> net("points 2;line plain 1 0 1"), x -> x.ways(8, 6, 0), 0);
         asks("11 by 8 for 4", () -> net("points 2;line plain 1 0 1"), x -> x.ways(8, 4, 0), 8);

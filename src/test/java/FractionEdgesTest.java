@@ -261,6 +261,10 @@ public final class FractionEdgesTest extends Edge {
         dueDoes("c*b alone is too great", of(-1, 3), 0, of(HALF, 1));
         dueDoes("a*d and c*b would wrap back", of(HALF, 1), 1, of(HALF * 2 - 1, 2));
         dueDoes("b*d alone is too great", of(1, ROOT + 1), 0, of(1, ROOT + 2));
+        // by these all bits change that tell a sum, a difference that wrapped
+        long third = 0x5555555555555555L;
+        dueDoes("sum, all bits change", of(third, 1), 0, of(third, 1));
+        dueDoes("difference, all bits change", of(~third, 1), 1, of(third, 1));
         dueDoes("b*d just isn't", of(0, 1), 0, of(1, MOST), 1, MOST);
         dueDoes("difference, the most", of(MOST - 1, 1), 1, of(-1, 1), MOST, 1);
         dueDoes("difference, one more", of(MOST, 1), 1, of(-1, 1));

@@ -1,49 +1,7 @@
 /** Each promise by hand: ordinary calls, the edges that the document names, wrong inputs. */
-public final class PromisesTest {
-    private static final int NONE = -1, BAD = -2, STATE = -3, FULL = -4, MUCH = -5;
-    private static final long NO = -4611686018427387904L;
-    private static final long ALL = 1099511627775L;
-    private static final int MIN = Integer.MIN_VALUE, MAX = Integer.MAX_VALUE;
+public final class PromisesTest extends Edge {
     private static final String FIVE_AND_ALL_LINES = "points 5;round plain 1 0 4;round plain 1 0 3;round plain 1 0 2;"
         + "round plain 1 1 4;round plain 1 2 4;line plain 1 1 3";
-    private static int asked = 0;
-    private static int wrong = 0;
-
-    private static void due(String what, long got, long want) {
-        asked++;
-        if (got != want) {
-            wrong++;
-            System.out.println(what + " answered " + got + ", due is " + want);
-        }
-    }
-
-    private static void feedAll(CircleTints x, String text) {
-        for (int i = 0; i < text.length(); i++) x.feed(text.charAt(i), 1);
-    }
-
-    private static int read(CircleTints x, String text) {
-        feedAll(x, text);
-        return x.text();
-    }
-
-    private static CircleTints net(String text) {
-        CircleTints x = new CircleTints();
-        if (read(x, text) < 1) {
-            wrong++;
-            System.out.println("not read: " + text);
-        }
-        return x;
-    }
-
-    private static void fill(CircleTints x, int s, int sort, long... row) {
-        x.sheet(s, sort, row.length);
-        for (int i = 0; i < row.length; i++) x.write(s, i, row[i]);
-    }
-
-    private static void dueRow(String what, CircleTints x, int s, long... row) {
-        for (int i = 0; i < row.length; i++) due(what + ", number " + i, x.item(s, i), row[i]);
-        due(what + ", its end", x.item(s, row.length), NO - 12);
-    }
 
     public static void main(String[] args) {
         aNewObject();
@@ -75,8 +33,7 @@ public final class PromisesTest {
         copies();
         painting();
         images();
-        System.out.println(wrong == 0 ? asked + " answers are as due" : wrong + " answers are not as due");
-        if (wrong != 0) System.exit(1);
+        end();
     }
 
     private static void aNewObject() {

@@ -20,6 +20,7 @@ public final class RingEdgesTest extends Edge {
         binds();
         roomBounds();
         roomAtItsEdges();
+        ringsThatAreGone();
         end();
     }
 
@@ -187,5 +188,24 @@ public final class RingEdgesTest extends Edge {
         asks("22 the most there is", wide, x -> x.room(6), 7);
         asks("22 five round, none", FIVE, x -> x.room(4), 0);
         asks("22 a LINE with no RING but its own", () -> net("points 6;round wide 1 0 4;line plain 1 4 5"), x -> x.room(5), 1);
+    }
+
+    /** What was reckoned for a net that has changed since must not count: three round, then three that don't go round. */
+    private static void ringsThatAreGone() {
+        CircleTints x = net("points 4;round plain 2 0 2");
+        due("15 three round", x.rings(), 4);
+        due("12 three round", x.ratio(0), 6);
+        x.drop(2);
+        x.line(0, 1, 2, 3);
+        due("22 the farthest", x.room(0), 0);
+        due("22 the last", x.room(2), 1);
+        due("15 three alone", x.rings(), 3);
+        due("16 no RING", x.ring(3, 0), NONE);
+        due("17 never", x.circled(4), 0);
+        due("19 the first", x.worst(4), 1);
+        due("20 all TURNS", x.turns(0), 8);
+        due("21 none by itself", x.binds(), 0);
+        fill(x, 0, 0, 0, 2, 4, 0);
+        due("25 no TIGHT RING", x.tight(0, 6, 1, 0), NONE);
     }
 }
