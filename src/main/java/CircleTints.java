@@ -274,7 +274,7 @@ public final class CircleTints {
         return book.roomOf(l);
     }
 
-    // ---- told colourings
+    // ---- told colourings: numbers of a sheet are places of points 0, 1, ..
 
     public int judge(int s, int p, int q) {
         int refusal = refusalOf(s, p, q);
