@@ -4,7 +4,8 @@ import java.nio.file.Path;
 
 /**
  * The document from its first line to its last, sentence by sentence: each is quoted and then tried, and what is quoted must be
- * the whole document in its order, so that no sentence is left without a test. Deeper tests of each promise stand in the others.
+ * the whole document in its order, so that no sentence is left without a test (but for what is not promised: that asks nothing).
+ * Deeper tests of each promise stand in the other tests.
  */
 public final class DocumentTest extends Edge {
     private static final String ROUND = "points 5;round plain 1 0 4";
